@@ -57,6 +57,7 @@ public final class AlignedRuns {
     private static final int CALL_RESULT = 14;
     private static final int MAX_OPEN = 5;
     private static final int MAX_JOINED = 4;
+    private static final int MAX_NOTED = 200;
 
     private final Tape tape;
     private final Table table;
@@ -77,7 +78,7 @@ public final class AlignedRuns {
         table = new Table();
         columnText = new ColumnText(tape);
         wordText = new WordText(tape);
-        question = new Question(tape);
+        question = new Question(tape, table);
         answerer = new Answerer(table);
         search = new BaseSearch();
         spare = new Bitmap();
@@ -138,7 +139,7 @@ public final class AlignedRuns {
         needElement(isResult(result));
         needArgument(isTextLength(n));
         tape.take(n);
-        if (!question.isRead(table.columnCount)) {
+        if (!question.isRead()) {
             return tape.refusal();
         }
         Bitmap answer = answerer.answerTo(question);
@@ -342,10 +343,11 @@ public final class AlignedRuns {
     }
 
     public int foretold(int kind, int column, int n, int what) throws NoSuchElementException, IllegalArgumentException {
-        Column asked = existingColumn(column);
+        existingColumn(column);
         needArgument(kind >= CALL_LE && kind <= CALL_NE && n >= 0 && n <= MAX_NUMBER);
         needArgument(what >= READINGS && what <= STEPS);
-        answerer.foretell(kind, asked, n);
+        question.becomeComparison(kind, column, n);
+        answerer.answerTo(question);
         return answerer.spent[what];
     }
 
@@ -1075,10 +1077,14 @@ public final class AlignedRuns {
             }
         }
 
-        boolean isNext(int sign) {
+        private void skipBlanks() {
             while (at < length && bytes[at] == ' ') {
                 at++;
             }
+        }
+
+        boolean isNext(int sign) {
+            skipBlanks();
             return at < length && bytes[at] == sign;
         }
 
@@ -1094,48 +1100,48 @@ public final class AlignedRuns {
         }
 
         void needEnd() {
-            isNext(' ');
+            skipBlanks();
             if (at < length) {
                 fail(1, at);
             }
         }
 
-        private boolean isBetween(int least, int most) {
-            return at < length && bytes[at] >= least && bytes[at] <= most;
+        boolean isDigitNext() {
+            skipBlanks();
+            return at < length && bytes[at] >= '0' && bytes[at] <= '9';
         }
 
-        /** NONE with a fault; a number of ever so many digits stays above all that are allowed. */
-        int readNumber() {
-            isNext(' ');
-            if (!isSound() || !isBetween('0', '9')) {
+        /** NONE with a fault. */
+        int readNumber(int least, int most) {
+            if (!isSound()) {
+                return NONE;
+            }
+            if (!isDigitNext()) {
                 fail(1, at);
                 return NONE;
             }
             start = at;
             int number = 0;
-            while (isBetween('0', '9')) {
+            while (at < length && bytes[at] >= '0' && bytes[at] <= '9') {
+                // A number of ever so many digits stays above all that are allowed.
                 number = Math.min(number * 10 + bytes[at] - '0', MAX_NUMBER + 1);
                 at++;
             }
-            return number;
-        }
-
-        int readNumberOf(int least, int most) {
-            int number = readNumber();
-            if (isSound() && (number < least || number > most)) {
+            if (number < least || number > most) {
                 fail(2, start);
+                return NONE;
             }
             return number;
         }
 
         /** Which of the names, parted by commas, stands here; NONE with a fault. */
         int readName(String names) {
-            isNext(' ');
             if (!isSound()) {
                 return NONE;
             }
+            skipBlanks();
             start = at;
-            while (isBetween('a', 'z')) {
+            while (at < length && bytes[at] >= 'a' && bytes[at] <= 'z') {
                 at++;
             }
             int which = 0;
@@ -1181,7 +1187,7 @@ public final class AlignedRuns {
         Column readColumn() {
             int form = tape.readName(FORMS);
             readBases();
-            int card = tape.readNumberOf(LEAST_CARD, MAX_CARD);
+            int card = tape.readNumber(LEAST_CARD, MAX_CARD);
             if (tape.isSound() && product < card) {
                 tape.fail(4, tape.start);
             }
@@ -1194,16 +1200,11 @@ public final class AlignedRuns {
             product = 1;
             boolean more = tape.isSound();
             while (more && parts <= MAX_COMPONENTS) {
-                int base = tape.readNumber();
-                if (!tape.isSound()) {
-                    return;
+                if (parts == MAX_COMPONENTS && tape.isDigitNext()) {
+                    tape.fail(3, tape.at);
                 }
-                if (parts == MAX_COMPONENTS) {
-                    tape.fail(3, tape.start);
-                    return;
-                }
-                if (base < LEAST_CARD || base > MAX_CARD) {
-                    tape.fail(2, tape.start);
+                int base = tape.readNumber(LEAST_CARD, MAX_CARD);
+                if (!tape.isSound() || parts >= MAX_COMPONENTS) {
                     return;
                 }
                 bases[parts] = base;
@@ -1281,26 +1282,33 @@ public final class AlignedRuns {
         }
     }
 
-    /** Reads a question into calls in the order in which they are answered: what is within ahead of what it is in. */
+    /**
+     * Reads a question into calls of a few kinds, in the order in which they are answered:
+     * what is within ahead of what it is in. lt, ge, gt, ne and in become le, eq, not and less there.
+     */
     private static final class Question {
         final Tape tape;
-        final int[] calls = new int[MAX_TEXT];
-        final int[] columns = new int[MAX_TEXT];
-        final int[] lows = new int[MAX_TEXT];
-        final int[] highs = new int[MAX_TEXT];
+        final Table table;
+        final int[] calls = new int[MAX_NOTED];
+        final int[] columns = new int[MAX_NOTED];
+        final int[] numbers = new int[MAX_NOTED];
         int length;
-        int columnCount;
 
-        Question(Tape tape) {
+        Question(Tape tape, Table table) {
             this.tape = tape;
+            this.table = table;
         }
 
-        boolean isRead(int columnsThere) {
+        boolean isRead() {
             length = 0;
-            columnCount = columnsThere;
             readCall(0);
             tape.needEnd();
             return tape.isSound();
+        }
+
+        void becomeComparison(int call, int column, int n) {
+            length = 0;
+            noteComparison(call, column, n);
         }
 
         private void readCall(int open) {
@@ -1318,23 +1326,30 @@ public final class AlignedRuns {
                 readJoined(call, open + 1);
             } else if (call == CALL_NOT) {
                 readCall(open + 1);
-                note(call, 0, 0, 0);
+                note(CALL_NOT, 0, 0);
             } else {
-                note(call, 0, call == CALL_RESULT ? tape.readNumberOf(0, LAST_RESULT) : 0, 0);
+                note(call, 0, call == CALL_RESULT ? tape.readNumber(0, LAST_RESULT) : 0);
             }
             tape.need(')');
         }
 
         private void readComparison(int call) {
-            int column = tape.readNumberOf(0, columnCount - 1);
+            int column = tape.readNumber(0, table.columnCount - 1);
             tape.need(',');
-            int low = tape.readNumberOf(0, MAX_NUMBER);
-            int high = low;
+            int n = tape.readNumber(0, MAX_NUMBER);
+            int m = n;
             if (call == CALL_IN) {
                 tape.need(',');
-                high = tape.readNumberOf(0, MAX_NUMBER);
+                m = tape.readNumber(0, MAX_NUMBER);
             }
-            note(call, column, low, high);
+            if (!tape.isSound()) {
+                return;
+            }
+            if (call == CALL_IN) {
+                noteBetween(column, n, m);
+            } else {
+                noteComparison(call, column, n);
+            }
         }
 
         private void readJoined(int call, int open) {
@@ -1344,19 +1359,55 @@ public final class AlignedRuns {
             for (int have = 1; have < most && tape.isSound() && (have == 1 || tape.isNext(',')); have++) {
                 tape.need(',');
                 readCall(open);
-                note(call, 0, 0, 0);
+                note(call, 0, 0);
             }
             if (upToFour && tape.isSound() && tape.isNext(',')) {
                 tape.fail(3, tape.at);
             }
         }
 
-        private void note(int call, int column, int low, int high) {
-            if (tape.isSound() && length < MAX_TEXT) {
+        private void noteComparison(int call, int column, int n) {
+            switch (call) {
+                case CALL_LE: case CALL_GT: noteUpTo(column, n); break;
+                case CALL_LT: case CALL_GE: noteUpTo(column, n - 1); break;
+                default: noteEqual(column, n); break;
+            }
+            if (call == CALL_GE || call == CALL_GT || call == CALL_NE) {
+                note(CALL_NOT, 0, 0);
+            }
+        }
+
+        private void noteBetween(int column, int n, int m) {
+            if (n > m) {
+                note(CALL_NONE, 0, 0);
+                return;
+            }
+            noteUpTo(column, m);
+            if (n > 0) {
+                noteUpTo(column, n - 1);
+                note(CALL_LESS, 0, 0);
+            }
+        }
+
+        private void noteUpTo(int column, int n) {
+            if (n < 0) {
+                note(CALL_NONE, 0, 0);
+            } else if (n >= table.columns[column].card - 1) {
+                note(CALL_ALL, 0, 0);
+            } else {
+                note(CALL_LE, column, n);
+            }
+        }
+
+        private void noteEqual(int column, int n) {
+            note(n < table.columns[column].card ? CALL_EQ : CALL_NONE, column, n);
+        }
+
+        private void note(int call, int column, int number) {
+            if (length < MAX_NOTED) {
                 calls[length] = call;
                 columns[length] = column;
-                lows[length] = low;
-                highs[length] = high;
+                numbers[length] = number;
                 length++;
             }
         }
@@ -1377,7 +1428,9 @@ public final class AlignedRuns {
         }
 
         Bitmap answerTo(Question question) {
-            begin();
+            for (int i = 0; i < spent.length; i++) {
+                spent[i] = 0;
+            }
             int top = 0;
             for (int i = 0; i < question.length; i++) {
                 int call = question.calls[i];
@@ -1387,70 +1440,25 @@ public final class AlignedRuns {
                     top--;
                     join(call - CALL_AND, stack[top - 1], stack[top]);
                 } else if (top < stack.length) {
-                    makeLeaf(question, i, stack[top]);
+                    makeLeaf(call, question.columns[i], question.numbers[i], stack[top]);
                     top++;
                 }
             }
-            return finish();
-        }
-
-        void foretell(int kind, Column column, int n) {
-            begin();
-            compare(kind, column, n, n, stack[0]);
-            finish();
-        }
-
-        private void begin() {
-            for (int i = 0; i < spent.length; i++) {
-                spent[i] = 0;
-            }
-        }
-
-        private Bitmap finish() {
             join(AND, stack[0], read(table.live()));
             return stack[0];
         }
 
-        private void makeLeaf(Question question, int i, Bitmap into) {
-            int low = question.lows[i];
-            switch (question.calls[i]) {
-                case CALL_ALL: into.fillTo(table.rows); break;
-                case CALL_NONE: into.fillTo(0); break;
-                case CALL_RESULT: into.copyFrom(read(table.results[low])); break;
-                default: compare(question.calls[i], table.columns[question.columns[i]], low, question.highs[i], into); break;
-            }
-        }
-
-        private void compare(int call, Column column, int low, int high, Bitmap into) {
+        private void makeLeaf(int call, int column, int number, Bitmap into) {
             switch (call) {
-                case CALL_LE: makeUpTo(column, low, into); break;
-                case CALL_LT: makeUpTo(column, low - 1, into); break;
-                case CALL_GE: makeUpTo(column, low - 1, into); turnAround(into); break;
-                case CALL_GT: makeUpTo(column, low, into); turnAround(into); break;
-                case CALL_EQ: makeEqual(column, low, into); break;
-                case CALL_NE: makeEqual(column, low, into); turnAround(into); break;
-                default: makeBetween(column, low, high, into); break;
-            }
-        }
-
-        private void makeBetween(Column column, int low, int high, Bitmap into) {
-            if (low > high) {
-                into.fillTo(0);
-                return;
-            }
-            makeUpTo(column, high, into);
-            if (low > 0) {
-                makeUpTo(column, low - 1, spare);
-                join(LESS, into, spare);
+                case CALL_LE: makeUpTo(table.columns[column], number, into); break;
+                case CALL_EQ: makeEqual(table.columns[column], number, into); break;
+                case CALL_RESULT: into.copyFrom(read(table.results[number])); break;
+                default: into.fillTo(call == CALL_ALL ? table.rows : 0); break;
             }
         }
 
         private void makeUpTo(Column column, int n, Bitmap into) {
-            if (n < 0) {
-                into.fillTo(0);
-            } else if (n >= column.card - 1) {
-                into.fillTo(table.rows);
-            } else if (column.byRange) {
+            if (column.byRange) {
                 makeUpToByRange(column, n, into);
             } else {
                 makeUpToByEqual(column, n, into);
@@ -1491,10 +1499,6 @@ public final class AlignedRuns {
         }
 
         private void makeEqual(Column column, int n, Bitmap into) {
-            if (n >= column.card) {
-                into.fillTo(0);
-                return;
-            }
             makeDigit(column, 0, column.digitOf(0, n), into);
             for (int part = 1; part < column.parts; part++) {
                 makeDigit(column, part, column.digitOf(part, n), spare);
