@@ -885,6 +885,7 @@ public final class AlignedRuns {
     private static final class Table {
         final Column[] columns = new Column[MAX_COLUMNS];
         final Bitmap[] results = new Bitmap[LIVE + 1];
+        final Bitmap everyRow = new Bitmap();
         final int[] tally = new int[MAX_CARD];
         final int[] arranged = new int[MAX_ROWS];
         final int[] masks = new int[MAX_CARD];
@@ -995,7 +996,8 @@ public final class AlignedRuns {
         }
 
         private void arrange(Column moved, Column ordering) {
-            tallyRows(ordering);
+            everyRow.fillTo(rows);
+            tallyOf(ordering, everyRow);
             int from = 0;
             for (int v = 0; v < MAX_CARD; v++) {
                 int here = tally[v];
@@ -1006,15 +1008,6 @@ public final class AlignedRuns {
                 int v = ordering.values[row];
                 arranged[tally[v]] = moved.values[row];
                 tally[v]++;
-            }
-        }
-
-        private void tallyRows(Column column) {
-            for (int v = 0; v < MAX_CARD; v++) {
-                tally[v] = 0;
-            }
-            for (int row = 0; row < rows; row++) {
-                tally[column.values[row]]++;
             }
         }
 
