@@ -189,7 +189,7 @@ public final class AlignedRuns {
             case 2: return table.live().count();
             case 3: return table.groupsUsed();
             case 4: return table.bitmapCount();
-            case 5: return table.wordCount();
+            case 5: return table.wordsOfAll();
             default: return tape.size;
         }
     }
@@ -202,7 +202,7 @@ public final class AlignedRuns {
             case 1: return asked.parts;
             case 2: return asked.byRange ? 1 : 0;
             case 3: return asked.bitmaps.length;
-            default: return asked.wordCount(table.groupsUsed());
+            default: return asked.wordsOfColumn(table.groupsUsed());
         }
     }
 
@@ -816,7 +816,7 @@ public final class AlignedRuns {
             return words;
         }
 
-        int wordCount(int used) {
+        int wordsOfColumn(int used) {
             int words = 0;
             for (int part = 0; part < parts; part++) {
                 words += wordsOfPart(part, used);
@@ -925,10 +925,10 @@ public final class AlignedRuns {
             return bitmaps;
         }
 
-        int wordCount() {
+        int wordsOfAll() {
             int words = 0;
             for (int c = 0; c < columnCount; c++) {
-                words += columns[c].wordCount(groupsUsed());
+                words += columns[c].wordsOfColumn(groupsUsed());
             }
             return words;
         }

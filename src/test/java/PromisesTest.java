@@ -283,6 +283,7 @@ public final class PromisesTest {
         AlignedRuns x = small();
         due("none deleted", 0, x::close);
         ask(x, 2, "le(0,37)");
+        load(x, 5, 0b10010);
         x.delete(0);
         x.delete(2);
         due("two deleted", 2, x::close);
@@ -290,6 +291,7 @@ public final class PromisesTest {
         due("value", 5, () -> x.value(0, 0));
         due("value behind", 37, () -> x.value(0, 1));
         due("result", 7, () -> x.word(2, 0));
+        due("last result", 5, () -> x.word(5, 0));
         due("LIVE", 7, () -> x.word(6, 0));
         due("bitmap", 4, () -> x.indexWord(1, 1, 1, 0));
         due("no such row", NSEE, () -> x.value(0, 3));
@@ -325,6 +327,8 @@ public final class PromisesTest {
         faultyQuestion("le", 1, 2);
         faultyQuestion("le ", 1, 3);
         faultyQuestion("lee(0,1)", 1, 0);
+        faultyQuestion("lez(0,1)", 1, 0);
+        faultyQuestion("ale(0,1)", 1, 0);
         faultyQuestion("LE(0,1)", 1, 0);
         faultyQuestion("l e(0,1)", 1, 0);
         faultyQuestion("le0(0,1)", 1, 2);
@@ -360,6 +364,8 @@ public final class PromisesTest {
         faultyQuestion("(all())", 1, 0);
         faultyQuestion("not(not(not(not(not(all())))))", 3, 23);
         faultyQuestion("not(not(not(not(not(le (9", 3, 23);
+        faultyQuestion("or(or(or(or(or(le(0,1)", 3, 17);
+        faultyQuestion("and(none(),xor(none(),less(none(),or(none(),and(none(), none()))))", 3, 52);
         faultyQuestion("not(not(not(not(not(lo(", 1, 20);
         faultyQuestion("all()" + (char) 0, 1, 5);
     }
@@ -406,6 +412,18 @@ public final class PromisesTest {
         dueAnswer(x, " xor ( result( 05 ) , none ( ) ) ", 5, 31, 2, 2, 2);
         dueAnswer(x, "result(5)", 5, 31, 2, 1, 1);
         dueAnswer(x, "and(all(),and(all(),and(all(),and(all(),in(0,1,37)))))", 3, 11, 6, 9, 9);
+        dueAnswer(x, "in(0,37,37)", 2, 9, 7, 6, 6);
+        dueAnswer(x, "none()", 0, 0x8001, 1, 1, 1);
+        dueAnswer(x, "le(0,19)", 2, 18, 3, 3, 3);
+        AlignedRuns z = with("range 6x3 of 18");
+        for (int v = 0; v < 15; v++) {
+            z.add(v, 0, 0, 0);
+        }
+        for (int v = 0; v < 15; v++) {
+            String number = v + ")";
+            dueAnswer(z, "eq(0," + number, 1, 1 << v);
+            dueAnswer(z, "le(0," + number, v + 1, v == 14 ? 0xC001 : (2 << v) - 1);
+        }
         AlignedRuns y = with("equal 3x4 of 12");
         y.many(15, 11, 0, 0, 0);
         y.many(15, 4, 0, 0, 0);
@@ -475,6 +493,16 @@ public final class PromisesTest {
         due("n", IAE, () -> x.load(1, 1));
         due("n below 0", IAE, () -> x.load(1, -1));
         due("LIVE", NSEE, () -> x.load(6, -1));
+        AlignedRuns sixteen = new AlignedRuns();
+        sixteen.many(16, 0, 0, 0, 0);
+        due("a last group of one row", 16, () -> load(sixteen, 0, 0xC001, 1));
+        due("its other bits", -4, () -> load(sixteen, 0, 0xC001, 2));
+        due("a last group that is missing", -3, () -> load(sixteen, 0, 0xC001));
+        due("both at once", 16, () -> sixteen.would(1, 0, 6, 0));
+        sixteen.delete(15);
+        sixteen.close();
+        due("fewer rows than before", 0, () -> load(sixteen, 1, 0x8001));
+        due("no last row", -1, () -> sixteen.result(1, 5));
         AlignedRuns empty = new AlignedRuns();
         due("no words for no rows", 0, () -> load(empty, 0));
         due("a group that is not", -5, () -> load(empty, 0, 1));
@@ -641,6 +669,16 @@ public final class PromisesTest {
             due("none what " + w, none[w], () -> x.result(0, w));
         }
         due("LIVE", 65, () -> x.result(6, 7));
+        AlignedRuns full = new AlignedRuns();
+        for (int i = 0; i < 4; i++) {
+            full.many(375, 0, 0, 0, 0);
+        }
+        due("last of 1500", 1499, () -> full.result(6, 5));
+        due("longest of 1500", 1500, () -> full.result(6, 7));
+        full.delete(1498);
+        due("one apart at the end", 2, () -> full.result(6, 6));
+        AlignedRuns few = small();
+        due("last of 5", 4, () -> few.result(6, 5));
         due("what 8", IAE, () -> x.result(0, 8));
         due("what -1", IAE, () -> x.result(0, -1));
         due("result 7", NSEE, () -> x.result(7, 8));
@@ -852,7 +890,8 @@ public final class PromisesTest {
         due("one value", 2, () -> x.span(0, 6, 37, 37));
         due("turned round", 0, () -> x.span(0, 6, 37, 5));
         due("to 999", 5, () -> x.span(0, 6, 0, 999));
-        due("beyond all", 0, () -> x.span(0, 6, 998, 999));
+        due("beyond all", 0, () -> x.span(0, 6, 999, 999));
+        due("to 0", 1, () -> x.span(0, 6, 0, 0));
         due("high", IAE, () -> x.span(0, 6, 0, 1000));
         due("low", IAE, () -> x.span(0, 6, -1, 5));
         due("both", IAE, () -> x.span(0, 6, 1000, -1));
@@ -1007,7 +1046,8 @@ public final class PromisesTest {
         promise = 41;
         AlignedRuns x = new AlignedRuns();
         int[][] cases = {{4, 3, 3, 4, -1, -1, -1}, {4, 2, 5, 2, 2, -1, -1}, {4, 1, -1, -1, -1, -1, -1},
-            {2, 24, 1, 2, -1, -1, -1}, {25, 24, 24, 25, -1, -1, -1}};
+            {2, 24, 1, 2, -1, -1, -1}, {25, 24, 24, 25, -1, -1, -1}, {200, 11, -1, -1, -1, -1, -1},
+            {200, 12, 977, 5, 2, 4, 5}, {26, 24, 49, 13, 2, -1, -1}, {16, 4, 53, 2, 2, 2, 2}};
         for (int[] c : cases) {
             for (int what = 0; what <= 4; what++) {
                 int w = what;
