@@ -7,16 +7,14 @@ import java.util.Arrays;
 public final class ExtremesTest {
     private static final int[] ODD = {Integer.MIN_VALUE, -1, 0, 1, 6, 200, Integer.MAX_VALUE};
 
-    private static int column(AlignedRuns x, String text) {
-        Check.put(x, Check.bytesOf(text));
-        return x.column(text.length());
-    }
+    /** What an object answers behind its 512th call is free, so that a new one is taken well ahead of that. */
+    private static final int CALLS_OF_ONE = 400;
 
     private static AlignedRuns state(int which) {
         AlignedRuns x = new AlignedRuns();
         if (which >= 1) {
-            column(x, "range 15x2x2x4 of 200");
-            column(x, "equal 200 of 200");
+            Made.column(x, "range 15x2x2x4 of 200");
+            Made.column(x, "equal 200 of 200");
         }
         if (which >= 2) {
             x.many(16, 0, 6, 0, 0);
@@ -38,18 +36,22 @@ public final class ExtremesTest {
         for (int which = 0; which <= 3; which++) {
             for (Method method : AlignedRuns.class.getDeclaredMethods()) {
                 if (Modifier.isPublic(method.getModifiers())) {
-                    callAll(state(which), method, which);
+                    callAll(method, which);
                 }
             }
         }
         Check.end("ExtremesTest");
     }
 
-    private static void callAll(AlignedRuns x, Method method, int which) throws IllegalAccessException {
+    private static void callAll(Method method, int which) throws IllegalAccessException {
+        AlignedRuns x = state(which);
         int count = method.getParameterCount();
         int mixtures = (int) Math.pow(ODD.length, count);
         String strange = "";
         for (int m = 0; m < mixtures; m++) {
+            if (m % CALLS_OF_ONE == CALLS_OF_ONE - 1) {
+                x = state(which);
+            }
             Object[] given = new Object[count];
             int rest = m;
             for (int i = 0; i < count; i++) {

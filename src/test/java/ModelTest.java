@@ -2,14 +2,19 @@ import java.util.Random;
 
 /** Random runs of calls, answered by the class and by the model; each answer has to be the same. */
 public final class ModelTest {
-    private static final int RUNS = 1500;
-    private static final int CALLS = 400;
+    private static final int RUNS = 3000;
+    /** What an object answers behind its 512th call is free. */
+    private static final int MOST_CALLS = 512;
+    /** The dearest step: 400 bytes are fed, then loaded, then fault is asked. */
+    private static final int CALLS_OF_A_STEP = 22;
+    private static final int CALLS_OF_A_COMPARISON = 27;
 
     private final Random random;
     private final AlignedRuns x = new AlignedRuns();
     private final Model m = new Model();
     private final long seed;
     private final boolean wide;
+    private int calls = 0;
     private final StringBuilder log = new StringBuilder();
 
     private ModelTest(long seed) {
@@ -28,9 +33,9 @@ public final class ModelTest {
 
     /** These two need no state, so they are gone through apart, the dear ones for some cards only. */
     private static void searches() {
-        AlignedRuns x = new AlignedRuns();
-        Model m = new Model();
         for (int card = 2; card <= 200; card++) {
+            AlignedRuns x = new AlignedRuns();
+            Model m = new Model();
             for (int components = 1; components <= 4; components++) {
                 for (int what = 0; what <= 4; what++) {
                     compareThrift(x, m, card, components, what);
@@ -38,22 +43,24 @@ public final class ModelTest {
             }
         }
         for (int card = 2; card <= 200; card += card < 20 ? 1 : 13) {
+            AlignedRuns x = new AlignedRuns();
+            Model m = new Model();
             for (int bitmaps = 1; bitmaps <= 24; bitmaps += card < 20 ? 1 : 4) {
                 for (int what = 0; what <= 4; what++) {
                     compareSwift(x, m, card, bitmaps, what);
                 }
             }
         }
-        compareSwift(x, m, 200, 24, 0);
-        compareSwift(x, m, 200, 24, 1);
     }
 
     private static void compareThrift(AlignedRuns x, Model m, int card, int components, int what) {
-        Check.due("thrift(" + card + ", " + components + ", " + what + ")", m.thrift(card, components, what), () -> x.thrift(card, components, what));
+        Check.due("thrift(" + card + ", " + components + ", " + what + ")", m.thrift(card, components, what),
+            () -> x.thrift(card, components, what));
     }
 
     private static void compareSwift(AlignedRuns x, Model m, int card, int bitmaps, int what) {
-        Check.due("swift(" + card + ", " + bitmaps + ", " + what + ")", m.swift(card, bitmaps, what), () -> x.swift(card, bitmaps, what));
+        Check.due("swift(" + card + ", " + bitmaps + ", " + what + ")", m.swift(card, bitmaps, what),
+            () -> x.swift(card, bitmaps, what));
     }
 
     private void run() {
@@ -61,19 +68,23 @@ public final class ModelTest {
         for (int i = 0; i < columns; i++) {
             columnCall(columnText());
         }
-        for (int i = 0; i < CALLS && Check.wrongSoFar() == 0; i++) {
+        int comparedAt = 0;
+        while (calls + CALLS_OF_A_STEP + 2 * CALLS_OF_A_COMPARISON <= MOST_CALLS && Check.wrongSoFar() == 0) {
             call();
-            if (i % 20 == 0) {
+            if (calls - comparedAt > 100) {
                 compareState();
+                comparedAt = calls;
             }
         }
         compareState();
+        Check.due("calls of one object " + calls, true, () -> calls <= MOST_CALLS);
         if (Check.wrongSoFar() > 0) {
             System.out.println("seed " + seed + ":" + log);
         }
     }
 
     private void same(String what, Check.Call ofModel, Check.Call ofClass) {
+        calls++;
         log.append('\n').append(what);
         Check.due("seed " + seed + ": " + what, Check.answerOf(ofModel), Check.answerOf(ofClass));
     }

@@ -12,50 +12,6 @@ public final class PromisesTest {
         Check.due("promise " + promise + ": " + what, want, call);
     }
 
-    private static int column(AlignedRuns x, String text) {
-        Check.put(x, Check.bytesOf(text));
-        return x.column(text.length());
-    }
-
-    private static int ask(AlignedRuns x, int result, String text) {
-        Check.put(x, Check.bytesOf(text));
-        return x.ask(result, text.length());
-    }
-
-    private static int load(AlignedRuns x, int result, int... words) {
-        Check.put(x, Check.bytesOfWords(words));
-        return x.load(result, words.length * 2);
-    }
-
-    /** An object with columns of these texts. */
-    private static AlignedRuns with(String... texts) {
-        AlignedRuns x = new AlignedRuns();
-        for (String text : texts) {
-            column(x, text);
-        }
-        return x;
-    }
-
-    /** One column "range 10x10 of 100" and one "equal 4 of 4", with five rows. */
-    private static AlignedRuns small() {
-        AlignedRuns x = with("range 10x10 of 100", "equal 4 of 4");
-        x.add(37, 1, 0, 0);
-        x.add(5, 0, 0, 0);
-        x.add(99, 3, 0, 0);
-        x.add(37, 2, 0, 0);
-        x.add(0, 1, 0, 0);
-        return x;
-    }
-
-    /** 65 rows of one column "range 2 of 2": 45 of 0, 15 of 1, 5 of 0. */
-    private static AlignedRuns runs() {
-        AlignedRuns x = with("range 2 of 2");
-        x.many(45, 0, 0, 0, 0);
-        x.many(15, 1, 0, 0, 0);
-        x.many(5, 0, 0, 0, 0);
-        return x;
-    }
-
     public static void main(String[] args) {
         newObject();
         feeding();
@@ -119,7 +75,7 @@ public final class PromisesTest {
             due("result words", 0, () -> x.result(result, 1));
         }
         due("fault()", -1, x::fault);
-        due("a question without rows", 0, () -> ask(x, 0, "not(none())"));
+        due("a question without rows", 0, () -> Made.ask(x, 0, "not(none())"));
         due("its steps", 0, () -> x.cost(2));
     }
 
@@ -141,7 +97,7 @@ public final class PromisesTest {
 
     private static void faultyColumn(String text, int fault, int place) {
         AlignedRuns x = new AlignedRuns();
-        due("column '" + text + "'", fault - 10, () -> column(x, text));
+        due("column '" + text + "'", fault - 10, () -> Made.column(x, text));
         due("place in '" + text + "'", place, x::fault);
         due("columns after '" + text + "'", 0, () -> x.told(0));
         due("tape after '" + text + "'", 0, () -> x.told(6));
@@ -183,16 +139,16 @@ public final class PromisesTest {
         faultyColumn("equal\t3 of 3", 1, 5);
         faultyColumn("equal 3 of 3" + (char) 233, 1, 12);
         AlignedRuns x = new AlignedRuns();
-        due("with blanks", 0, () -> column(x, "  range 10  x 10 of   100  "));
-        due("without blanks", 1, () -> column(x, "equal2x2of4"));
-        due("greatest bases", 2, () -> column(x, "equal 200x200x200x200 of 200"));
-        due("leading zeros", 3, () -> column(x, "range 0000000000002x03 of 005"));
+        due("with blanks", 0, () -> Made.column(x, "  range 10  x 10 of   100  "));
+        due("without blanks", 1, () -> Made.column(x, "equal2x2of4"));
+        due("greatest bases", 2, () -> Made.column(x, "equal 200x200x200x200 of 200"));
+        due("leading zeros", 3, () -> Made.column(x, "range 0000000000002x03 of 005"));
         due("bases", 3, () -> x.base(3, 2));
         due("card", 5, () -> x.columnOf(3, 0));
     }
 
     private static void columnRefusals() {
-        AlignedRuns x = with("equal 2 of 2");
+        AlignedRuns x = Made.with("equal 2 of 2");
         due("n beyond the tape", IAE, () -> x.column(1));
         due("n below 0", IAE, () -> x.column(-1));
         for (int i = 0; i < 11; i++) {
@@ -213,14 +169,14 @@ public final class PromisesTest {
         x.delete(0);
         x.close();
         due("no rows again", -9, () -> x.column(4));
-        AlignedRuns full = with("equal 2 of 2", "equal 2 of 2", "equal 2 of 2", "equal 2 of 2");
+        AlignedRuns full = Made.with("equal 2 of 2", "equal 2 of 2", "equal 2 of 2", "equal 2 of 2");
         due("four columns", ISE, () -> full.column(0));
         due("four columns stay", 4, () -> full.told(0));
     }
 
     private static void adding() {
         promise = 4;
-        AlignedRuns x = with("range 3x3 of 7", "equal 2 of 2");
+        AlignedRuns x = Made.with("range 3x3 of 7", "equal 2 of 2");
         due("first row", 0, () -> x.add(6, 1, -5, 999));
         due("second row", 1, () -> x.add(0, 0, HIGH, LOW));
         due("value at card", IAE, () -> x.add(7, 0, 0, 0));
@@ -228,7 +184,7 @@ public final class PromisesTest {
         due("second value", IAE, () -> x.add(0, 2, 0, 0));
         due("lowest value", IAE, () -> x.add(0, LOW, 0, 0));
         due("rows", 2, () -> x.told(1));
-        AlignedRuns full = with("range 2 of 2");
+        AlignedRuns full = Made.with("range 2 of 2");
         full.many(400, 0, 0, 0, 0);
         full.many(400, 1, 0, 0, 0);
         full.many(400, 0, 0, 0, 0);
@@ -241,7 +197,7 @@ public final class PromisesTest {
 
     private static void addingMany() {
         promise = 5;
-        AlignedRuns x = with("equal 3 of 3");
+        AlignedRuns x = Made.with("equal 3 of 3");
         due("many", 20, () -> x.many(20, 2, 0, 0, 0));
         due("no rows", IAE, () -> x.many(0, 0, 0, 0, 0));
         due("below 0", IAE, () -> x.many(-1, 0, 0, 0, 0));
@@ -263,7 +219,7 @@ public final class PromisesTest {
 
     private static void deleting() {
         promise = 6;
-        AlignedRuns x = small();
+        AlignedRuns x = Made.small();
         due("no such row", NSEE, () -> x.delete(5));
         due("below 0", NSEE, () -> x.delete(-1));
         due("lowest", NSEE, () -> x.delete(LOW));
@@ -274,16 +230,16 @@ public final class PromisesTest {
         due("not deleted", 3, () -> x.told(2));
         due("bitmaps stay", 2, () -> x.index(1, 1, 1, 0));
         due("LIVE", 22, () -> x.word(6, 0));
-        due("answers are without them", 0, () -> ask(x, 0, "eq(0,37)"));
-        due("all", 3, () -> ask(x, 0, "all()"));
+        due("answers are without them", 0, () -> Made.ask(x, 0, "eq(0,37)"));
+        due("all", 3, () -> Made.ask(x, 0, "all()"));
     }
 
     private static void closing() {
         promise = 7;
-        AlignedRuns x = small();
+        AlignedRuns x = Made.small();
         due("none deleted", 0, x::close);
-        ask(x, 2, "le(0,37)");
-        load(x, 5, 0b10010);
+        Made.ask(x, 2, "le(0,37)");
+        Made.load(x, 5, 0b10010);
         x.delete(0);
         x.delete(2);
         due("two deleted", 2, x::close);
@@ -297,7 +253,7 @@ public final class PromisesTest {
         due("no such row", NSEE, () -> x.value(0, 3));
         due("a new row", 3, () -> x.add(99, 3, 0, 0));
         due("is not in the result", 7, () -> x.word(2, 0));
-        AlignedRuns y = runs();
+        AlignedRuns y = Made.runs();
         y.turn(0);
         for (int row = 0; row < 65; row++) {
             y.delete(row);
@@ -311,9 +267,9 @@ public final class PromisesTest {
     }
 
     private static void faultyQuestion(String text, int fault, int place) {
-        AlignedRuns x = small();
+        AlignedRuns x = Made.small();
         x.turn(0);
-        due("ask '" + text + "'", fault - 10, () -> ask(x, 0, text));
+        due("ask '" + text + "'", fault - 10, () -> Made.ask(x, 0, text));
         due("place in '" + text + "'", place, x::fault);
         due("result after '" + text + "'", 31, () -> x.word(0, 0));
         due("tape after '" + text + "'", 0, () -> x.told(6));
@@ -371,7 +327,7 @@ public final class PromisesTest {
     }
 
     private static void dueAnswer(AlignedRuns x, String text, int rows, int word, int... cost) {
-        due(text, rows, () -> ask(x, 5, text));
+        due(text, rows, () -> Made.ask(x, 5, text));
         due("fault of " + text, -1, x::fault);
         due("word of " + text, word, () -> x.word(5, 0));
         for (int what = 0; what < cost.length; what++) {
@@ -381,7 +337,7 @@ public final class PromisesTest {
     }
 
     private static void askingAnswers() {
-        AlignedRuns x = small();
+        AlignedRuns x = Made.small();
         dueAnswer(x, "le(0,37)", 4, 27, 4, 3, 3);
         dueAnswer(x, "le(0,9)", 2, 18, 2, 2, 2);
         dueAnswer(x, "le(0,19)", 2, 18, 3, 3, 3);
@@ -415,7 +371,7 @@ public final class PromisesTest {
         dueAnswer(x, "in(0,37,37)", 2, 9, 7, 6, 6);
         dueAnswer(x, "none()", 0, 0x8001, 1, 1, 1);
         dueAnswer(x, "le(0,19)", 2, 18, 3, 3, 3);
-        AlignedRuns z = with("range 6x3 of 18");
+        AlignedRuns z = Made.with("range 6x3 of 18");
         for (int v = 0; v < 15; v++) {
             z.add(v, 0, 0, 0);
         }
@@ -424,7 +380,7 @@ public final class PromisesTest {
             dueAnswer(z, "eq(0," + number, 1, 1 << v);
             dueAnswer(z, "le(0," + number, v + 1, v == 14 ? 0xC001 : (2 << v) - 1);
         }
-        AlignedRuns y = with("equal 3x4 of 12");
+        AlignedRuns y = Made.with("equal 3x4 of 12");
         y.many(15, 11, 0, 0, 0);
         y.many(15, 4, 0, 0, 0);
         y.many(30, 0, 0, 0, 0);
@@ -433,7 +389,7 @@ public final class PromisesTest {
     }
 
     private static void askingRefusals() {
-        AlignedRuns x = small();
+        AlignedRuns x = Made.small();
         due("LIVE is none of them", NSEE, () -> x.ask(6, 0));
         due("below 0", NSEE, () -> x.ask(-1, 500));
         due("n", IAE, () -> x.ask(0, 1));
@@ -449,13 +405,13 @@ public final class PromisesTest {
         while (text.length() < 200) {
             text.append(' ');
         }
-        due("200 bytes with blanks", 5, () -> ask(x, 0, text.toString()));
+        due("200 bytes with blanks", 5, () -> Made.ask(x, 0, text.toString()));
     }
 
     private static void faultyWords(int fault, int place, int... words) {
-        AlignedRuns x = runs();
+        AlignedRuns x = Made.runs();
         x.turn(1);
-        due("load", fault - 10, () -> load(x, 1, words));
+        due("load", fault - 10, () -> Made.load(x, 1, words));
         due("its place", place, x::fault);
         due("result stays", 65, () -> x.result(1, 0));
         due("tape is empty", 0, () -> x.told(6));
@@ -480,13 +436,13 @@ public final class PromisesTest {
         faultyWords(6, 2, 0x8004, 32);
         faultyWords(6, 2, 0x8004, 0xC001);
         faultyWords(6, 2, 0x8004, 0x4001);
-        AlignedRuns x = runs();
-        due("words", 32, () -> load(x, 1, 0x8002, 0xC002, 5));
+        AlignedRuns x = Made.runs();
+        due("words", 32, () -> Made.load(x, 1, 0x8002, 0xC002, 5));
         due("no fault", -1, x::fault);
         due("a word", 0xC002, () -> x.word(1, 1));
-        due("none", 0, () -> load(x, 1, 0x8005));
-        due("as all", 65, () -> load(x, 1, 0xC004, 31));
-        due("alike literals", 15, () -> load(x, 1, 7, 7, 7, 7, 7));
+        due("none", 0, () -> Made.load(x, 1, 0x8005));
+        due("as all", 65, () -> Made.load(x, 1, 0xC004, 31));
+        due("alike literals", 15, () -> Made.load(x, 1, 7, 7, 7, 7, 7));
         Check.put(x, new byte[] {(byte) 0x80, 4, 1});
         due("a word of one byte", -9, () -> x.load(1, 3));
         due("its place", 2, x::fault);
@@ -495,17 +451,17 @@ public final class PromisesTest {
         due("LIVE", NSEE, () -> x.load(6, -1));
         AlignedRuns sixteen = new AlignedRuns();
         sixteen.many(16, 0, 0, 0, 0);
-        due("a last group of one row", 16, () -> load(sixteen, 0, 0xC001, 1));
-        due("its other bits", -4, () -> load(sixteen, 0, 0xC001, 2));
-        due("a last group that is missing", -3, () -> load(sixteen, 0, 0xC001));
+        due("a last group of one row", 16, () -> Made.load(sixteen, 0, 0xC001, 1));
+        due("its other bits", -4, () -> Made.load(sixteen, 0, 0xC001, 2));
+        due("a last group that is missing", -3, () -> Made.load(sixteen, 0, 0xC001));
         due("both at once", 16, () -> sixteen.would(1, 0, 6, 0));
         sixteen.delete(15);
         sixteen.close();
-        due("fewer rows than before", 0, () -> load(sixteen, 1, 0x8001));
+        due("fewer rows than before", 0, () -> Made.load(sixteen, 1, 0x8001));
         due("no last row", -1, () -> sixteen.result(1, 5));
         AlignedRuns empty = new AlignedRuns();
-        due("no words for no rows", 0, () -> load(empty, 0));
-        due("a group that is not", -5, () -> load(empty, 0, 1));
+        due("no words for no rows", 0, () -> Made.load(empty, 0));
+        due("a group that is not", -5, () -> Made.load(empty, 0, 1));
         AlignedRuns long400 = new AlignedRuns();
         for (int i = 0; i < 3; i++) {
             long400.many(400, 0, 0, 0, 0);
@@ -515,8 +471,8 @@ public final class PromisesTest {
         for (int i = 0; i < 100; i++) {
             literals[i] = 1 + i;
         }
-        due("100 literals", 319, () -> load(long400, 0, literals));
-        due("as a fill", 1500, () -> load(long400, 0, 0xC000 + 100));
+        due("100 literals", 319, () -> Made.load(long400, 0, literals));
+        due("as a fill", 1500, () -> Made.load(long400, 0, 0xC000 + 100));
         for (int i = 0; i < 20; i++) {
             long400.feed(0x00010001, 0x00010001, 0x00010001, 0x00010001, 0x00010001);
         }
@@ -526,25 +482,25 @@ public final class PromisesTest {
 
     private static void faultPlaces() {
         promise = 10;
-        AlignedRuns x = with("equal 2 of 2");
+        AlignedRuns x = Made.with("equal 2 of 2");
         due("without", -1, x::fault);
-        ask(x, 0, "all(");
+        Made.ask(x, 0, "all(");
         due("of ask", 4, x::fault);
         due("refused", IAE, () -> x.ask(0, 1));
         due("refused calls leave it", 4, x::fault);
         due("others leave it", 1, () -> x.many(1, 0, 0, 0, 0));
         due("ask's still", 4, x::fault);
-        load(x, 0, 0);
+        Made.load(x, 0, 0);
         due("of load", 0, x::fault);
-        ask(x, 0, "all()");
+        Made.ask(x, 0, "all()");
         due("none again", -1, x::fault);
     }
 
     private static void logicOfResults() {
         promise = 11;
-        AlignedRuns x = small();
-        load(x, 0, 3);
-        load(x, 1, 6);
+        AlignedRuns x = Made.small();
+        Made.load(x, 0, 3);
+        Made.load(x, 1, 6);
         due("AND", 1, () -> x.logic(0, 0, 1, 2));
         due("AND word", 2, () -> x.word(2, 0));
         due("OR", 3, () -> x.logic(1, 0, 1, 2));
@@ -566,7 +522,7 @@ public final class PromisesTest {
 
     private static void turning() {
         promise = 12;
-        AlignedRuns x = runs();
+        AlignedRuns x = Made.runs();
         due("turn", 65, () -> x.turn(3));
         due("word", 0xC004, () -> x.word(3, 0));
         due("last word", 31, () -> x.word(3, 1));
@@ -580,7 +536,7 @@ public final class PromisesTest {
 
     private static void telling() {
         promise = 13;
-        AlignedRuns x = runs();
+        AlignedRuns x = Made.runs();
         x.delete(64);
         x.feed(0, 0, 0, 0, 0);
         int[] want = {1, 65, 64, 5, 1, 3, 20};
@@ -594,7 +550,7 @@ public final class PromisesTest {
 
     private static void columnsTold() {
         promise = 14;
-        AlignedRuns x = with("range 4x3 of 9", "equal 5x2 of 10");
+        AlignedRuns x = Made.with("range 4x3 of 9", "equal 5x2 of 10");
         x.many(15, 4, 9, 0, 0);
         x.many(1, 8, 0, 0, 0);
         int[] first = {9, 2, 1, 5, 9};
@@ -612,7 +568,7 @@ public final class PromisesTest {
 
     private static void bases() {
         promise = 15;
-        AlignedRuns x = with("range 4x3x7 of 9");
+        AlignedRuns x = Made.with("range 4x3x7 of 9");
         due("base 1", 4, () -> x.base(0, 1));
         due("base 3", 7, () -> x.base(0, 3));
         due("base 0", NSEE, () -> x.base(0, 0));
@@ -622,13 +578,13 @@ public final class PromisesTest {
 
     private static void indexes() {
         promise = 16;
-        AlignedRuns x = runs();
+        AlignedRuns x = Made.runs();
         int[] want = {50, 3, 1, 2, 0, 64};
         for (int what = 0; what < want.length; what++) {
             int w = what;
             due("index what " + w, want[w], () -> x.index(0, 1, 0, w));
         }
-        AlignedRuns y = with("equal 2 of 2");
+        AlignedRuns y = Made.with("equal 2 of 2");
         y.many(3, 1, 0, 0, 0);
         due("no first row", -1, () -> y.index(0, 1, 0, 4));
         due("no last row", -1, () -> y.index(0, 1, 0, 5));
@@ -644,20 +600,20 @@ public final class PromisesTest {
 
     private static void indexWords() {
         promise = 17;
-        AlignedRuns x = runs();
+        AlignedRuns x = Made.runs();
         due("word 0", 0xC003, () -> x.indexWord(0, 1, 0, 0));
         due("word 1", 0x8001, () -> x.indexWord(0, 1, 0, 1));
         due("word 2", 31, () -> x.indexWord(0, 1, 0, 2));
         due("word 3", NSEE, () -> x.indexWord(0, 1, 0, 3));
         due("word -1", NSEE, () -> x.indexWord(0, 1, 0, -1));
         due("bitmap", NSEE, () -> x.indexWord(0, 1, 1, 0));
-        due("range has them at most", 18, () -> small().indexWord(0, 1, 5, 0));
+        due("range has them at most", 18, () -> Made.small().indexWord(0, 1, 5, 0));
     }
 
     private static void resultsTold() {
         promise = 18;
-        AlignedRuns x = runs();
-        load(x, 1, 0x8002, 0xC001, 3, 9);
+        AlignedRuns x = Made.runs();
+        Made.load(x, 1, 0x8002, 0xC001, 3, 9);
         int[] want = {19, 4, 2, 2, 30, 63, 3, 17};
         for (int what = 0; what < want.length; what++) {
             int w = what;
@@ -677,7 +633,7 @@ public final class PromisesTest {
         due("longest of 1500", 1500, () -> full.result(6, 7));
         full.delete(1498);
         due("one apart at the end", 2, () -> full.result(6, 6));
-        AlignedRuns few = small();
+        AlignedRuns few = Made.small();
         due("last of 5", 4, () -> few.result(6, 5));
         due("what 8", IAE, () -> x.result(0, 8));
         due("what -1", IAE, () -> x.result(0, -1));
@@ -687,7 +643,7 @@ public final class PromisesTest {
 
     private static void words() {
         promise = 19;
-        AlignedRuns x = runs();
+        AlignedRuns x = Made.runs();
         due("of LIVE", 31, () -> x.word(6, 1));
         due("k", NSEE, () -> x.word(6, 2));
         due("k below 0", NSEE, () -> x.word(6, -1));
@@ -698,8 +654,8 @@ public final class PromisesTest {
 
     private static void rowsHad() {
         promise = 20;
-        AlignedRuns x = runs();
-        load(x, 1, 0x8002, 0xC002, 5);
+        AlignedRuns x = Made.runs();
+        Made.load(x, 1, 0x8002, 0xC002, 5);
         due("has 29", false, () -> x.has(1, 29));
         due("has 30", true, () -> x.has(1, 30));
         due("has 62", true, () -> x.has(1, 62));
@@ -712,8 +668,8 @@ public final class PromisesTest {
 
     private static void ranks() {
         promise = 21;
-        AlignedRuns x = runs();
-        load(x, 1, 0x8002, 0xC002, 5);
+        AlignedRuns x = Made.runs();
+        Made.load(x, 1, 0x8002, 0xC002, 5);
         due("rank 0", 0, () -> x.rank(1, 0));
         due("rank 31", 1, () -> x.rank(1, 31));
         due("rank 60", 30, () -> x.rank(1, 60));
@@ -726,8 +682,8 @@ public final class PromisesTest {
 
     private static void selects() {
         promise = 22;
-        AlignedRuns x = runs();
-        load(x, 1, 0x8002, 0xC002, 5);
+        AlignedRuns x = Made.runs();
+        Made.load(x, 1, 0x8002, 0xC002, 5);
         due("select 0", 30, () -> x.select(1, 0));
         due("select 29", 59, () -> x.select(1, 29));
         due("select 31", 62, () -> x.select(1, 31));
@@ -741,8 +697,8 @@ public final class PromisesTest {
 
     private static void nexts() {
         promise = 23;
-        AlignedRuns x = runs();
-        load(x, 1, 0x8002, 0xC002, 5);
+        AlignedRuns x = Made.runs();
+        Made.load(x, 1, 0x8002, 0xC002, 5);
         due("next 0", 30, () -> x.next(1, 0));
         due("next 59", 59, () -> x.next(1, 59));
         due("next 61", 62, () -> x.next(1, 61));
@@ -761,9 +717,9 @@ public final class PromisesTest {
 
     private static void woulds() {
         promise = 24;
-        AlignedRuns x = runs();
-        load(x, 0, 0x8003, 0xC001, 0x8001);
-        load(x, 1, 0xC002, 7, 0x8002);
+        AlignedRuns x = Made.runs();
+        Made.load(x, 0, 0x8003, 0xC001, 0x8001);
+        Made.load(x, 1, 0xC002, 7, 0x8002);
         int[][] want = {{0, 1, 4}, {48, 4, 4}, {48, 4, 4}, {15, 3, 4}};
         for (int kind = 0; kind < 4; kind++) {
             for (int what = 0; what < 3; what++) {
@@ -784,9 +740,9 @@ public final class PromisesTest {
 
     private static void withins() {
         promise = 25;
-        AlignedRuns x = small();
-        load(x, 0, 3);
-        load(x, 1, 7);
+        AlignedRuns x = Made.small();
+        Made.load(x, 0, 3);
+        Made.load(x, 1, 7);
         due("within", true, () -> x.within(0, 1));
         due("not within", false, () -> x.within(1, 0));
         due("itself", true, () -> x.within(1, 1));
@@ -798,13 +754,13 @@ public final class PromisesTest {
 
     private static void costs() {
         promise = 26;
-        AlignedRuns x = small();
+        AlignedRuns x = Made.small();
         due("none yet", 0, () -> x.cost(0));
-        ask(x, 0, "gt(0,37)");
+        Made.ask(x, 0, "gt(0,37)");
         due("READINGS", 4, () -> x.cost(0));
         due("OPS", 4, () -> x.cost(1));
         due("STEPS", 4, () -> x.cost(2));
-        ask(x, 0, "gt(0,37");
+        Made.ask(x, 0, "gt(0,37");
         x.foretold(0, 0, 99, 0);
         x.logic(0, 0, 0, 1);
         x.turn(1);
@@ -815,7 +771,7 @@ public final class PromisesTest {
 
     private static void values() {
         promise = 27;
-        AlignedRuns x = small();
+        AlignedRuns x = Made.small();
         due("value", 99, () -> x.value(0, 2));
         due("other column", 3, () -> x.value(1, 2));
         x.delete(2);
@@ -827,7 +783,7 @@ public final class PromisesTest {
 
     private static void sums() {
         promise = 28;
-        AlignedRuns x = small();
+        AlignedRuns x = Made.small();
         x.turn(0);
         due("LIVE", 178, () -> x.sum(0, 6));
         x.delete(2);
@@ -836,7 +792,7 @@ public final class PromisesTest {
         due("none", 0, () -> x.sum(0, 1));
         due("column", NSEE, () -> x.sum(2, 0));
         due("result", NSEE, () -> x.sum(0, 7));
-        AlignedRuns most = with("equal 200 of 200");
+        AlignedRuns most = Made.with("equal 200 of 200");
         for (int i = 0; i < 4; i++) {
             most.many(375, 199, 0, 0, 0);
         }
@@ -845,7 +801,7 @@ public final class PromisesTest {
 
     private static void kths() {
         promise = 29;
-        AlignedRuns x = small();
+        AlignedRuns x = Made.small();
         int[] want = {0, 5, 37, 37, 99, -1};
         for (int k = 0; k < want.length; k++) {
             int i = k;
@@ -860,7 +816,7 @@ public final class PromisesTest {
 
     private static void modes() {
         promise = 30;
-        AlignedRuns x = small();
+        AlignedRuns x = Made.small();
         due("mode", 37, () -> x.mode(0, 6, 0));
         due("how many", 2, () -> x.mode(0, 6, 1));
         x.delete(3);
@@ -876,7 +832,7 @@ public final class PromisesTest {
 
     private static void unlikes() {
         promise = 31;
-        AlignedRuns x = small();
+        AlignedRuns x = Made.small();
         due("unlike", 4, () -> x.unlike(0, 6));
         due("none", 0, () -> x.unlike(0, 0));
         due("column", NSEE, () -> x.unlike(-1, 0));
@@ -885,7 +841,7 @@ public final class PromisesTest {
 
     private static void spans() {
         promise = 32;
-        AlignedRuns x = small();
+        AlignedRuns x = Made.small();
         due("span", 3, () -> x.span(0, 6, 5, 37));
         due("one value", 2, () -> x.span(0, 6, 37, 37));
         due("turned round", 0, () -> x.span(0, 6, 37, 5));
@@ -901,20 +857,20 @@ public final class PromisesTest {
 
     private static void foretolds() {
         promise = 33;
-        AlignedRuns x = small();
+        AlignedRuns x = Made.small();
         String[] kinds = {"le", "lt", "ge", "gt", "eq", "ne"};
         for (int kind = 0; kind < 6; kind++) {
             for (int n : new int[] {0, 9, 37, 90, 98, 99, 100, 999}) {
                 for (int what = 0; what < 3; what++) {
                     int k = kind;
                     int w = what;
-                    ask(x, 0, kinds[k] + "(0," + n + ")");
+                    Made.ask(x, 0, kinds[k] + "(0," + n + ")");
                     due("foretold " + kinds[k] + " " + n, x.cost(w), () -> x.foretold(k, 0, n, w));
                 }
             }
         }
         due("eq 37 READINGS", 5, () -> x.foretold(4, 0, 37, 0));
-        ask(x, 0, "all(");
+        Made.ask(x, 0, "all(");
         due("behind a fault", 4, () -> x.foretold(4, 0, 37, 1));
         due("the fault stays", 4, x::fault);
         due("kind", IAE, () -> x.foretold(6, 0, 0, 0));
@@ -927,9 +883,9 @@ public final class PromisesTest {
 
     private static void differs() {
         promise = 34;
-        AlignedRuns x = small();
-        load(x, 0, 3);
-        load(x, 1, 6);
+        AlignedRuns x = Made.small();
+        Made.load(x, 0, 3);
+        Made.load(x, 1, 6);
         due("differ", 2, () -> x.differ(0, 1));
         due("LIVE", 3, () -> x.differ(6, 1));
         due("itself", 0, () -> x.differ(1, 1));
@@ -939,8 +895,8 @@ public final class PromisesTest {
 
     private static void groups() {
         promise = 35;
-        AlignedRuns x = runs();
-        load(x, 0, 9, 0xC002, 0x8002);
+        AlignedRuns x = Made.runs();
+        Made.load(x, 0, 9, 0xC002, 0x8002);
         int[][] want = {{9, 1, 0}, {32767, 2, 1}, {32767, 2, 1}, {0, 2, 2}, {0, 2, 2}};
         for (int k = 0; k < 5; k++) {
             for (int what = 0; what < 3; what++) {
@@ -959,10 +915,10 @@ public final class PromisesTest {
 
     private static void widests() {
         promise = 36;
-        AlignedRuns x = runs();
-        load(x, 0, 9, 0xC001, 0x8003);
+        AlignedRuns x = Made.runs();
+        Made.load(x, 0, 9, 0xC001, 0x8003);
         due("widest", 3, () -> x.widest(0));
-        load(x, 0, 9, 9, 9, 9, 9);
+        Made.load(x, 0, 9, 9, 9, 9, 9);
         due("without fills", 0, () -> x.widest(0));
         due("LIVE", 4, () -> x.widest(6));
         due("result", NSEE, () -> x.widest(7));
@@ -971,7 +927,7 @@ public final class PromisesTest {
 
     private static void heaviests() {
         promise = 37;
-        AlignedRuns x = with("range 2x4 of 8", "equal 3x3 of 9");
+        AlignedRuns x = Made.with("range 2x4 of 8", "equal 3x3 of 9");
         due("no rows: the first", 1, () -> x.heaviest(0, 0));
         due("no rows: no words", 0, () -> x.heaviest(0, 1));
         x.many(15, 3, 8, 0, 0);
@@ -987,7 +943,7 @@ public final class PromisesTest {
 
     private static void ordereds() {
         promise = 38;
-        AlignedRuns x = with("equal 2 of 2", "range 3 of 3");
+        AlignedRuns x = Made.with("equal 2 of 2", "range 3 of 3");
         for (int i = 0; i < 30; i++) {
             x.add(i % 2, i / 10, 0, 0);
         }
@@ -1000,7 +956,7 @@ public final class PromisesTest {
         due("rows stay", 1, () -> x.value(0, 1));
         due("column", NSEE, () -> x.ordered(2, 0));
         due("by", NSEE, () -> x.ordered(0, 2));
-        AlignedRuns y = with("equal 2 of 2", "equal 2 of 2");
+        AlignedRuns y = Made.with("equal 2 of 2", "equal 2 of 2");
         for (int i = 0; i < 60; i++) {
             y.add(i / 15 % 2, i / 30, 0, 0);
         }
@@ -1011,7 +967,7 @@ public final class PromisesTest {
 
     private static void readingsTold() {
         promise = 39;
-        AlignedRuns x = with("range 10x10 of 100", "equal 4 of 4", "equal 3x4 of 11", "range 2x2x2 of 8");
+        AlignedRuns x = Made.with("range 10x10 of 100", "equal 4 of 4", "equal 3x4 of 11", "range 2x2x2 of 8");
         int[][] want = {{269, 3}, {6, 3}, {41, 6}, {18, 3}};
         for (int c = 0; c < 4; c++) {
             int i = c;

@@ -8,11 +8,6 @@ public final class RoomTest {
     private static final com.sun.management.ThreadMXBean BEAN =
         (com.sun.management.ThreadMXBean) ManagementFactory.getThreadMXBean();
 
-    private static int column(AlignedRuns x, String text) {
-        Check.put(x, Check.bytesOf(text));
-        return x.column(text.length());
-    }
-
     private static long made() {
         return BEAN.getThreadAllocatedBytes(Thread.currentThread().getId());
     }
@@ -20,7 +15,7 @@ public final class RoomTest {
     private static AlignedRuns dearest() {
         AlignedRuns x = new AlignedRuns();
         for (int i = 0; i < 4; i++) {
-            column(x, "equal 200x200x200x200 of 200");
+            Made.column(x, "equal 200x200x200x200 of 200");
         }
         for (int i = 0; i < 4; i++) {
             x.many(375, i, 199 - i, 3 * i, 0);
