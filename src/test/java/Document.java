@@ -10,20 +10,22 @@ import java.util.TreeSet;
 final class Document {
     static final int TERMS = 0;
     static final int PROMISES = 42;
+    static final int HEAD = PROMISES + 1;
     private static final Path FILE = Path.of("../shared/DOC.md");
 
-    private final String[] sections = new String[PROMISES + 1];
+    private final String[] sections = new String[PROMISES + 2];
     private final List<Set<String>> told = new ArrayList<>();
     private String now = "";
 
     Document() throws IOException {
         String text = Files.readString(FILE);
+        sections[HEAD] = between(text, "## What it is\n", "## The public face\n");
         sections[TERMS] = between(text, "## Terms\n", "## Promise 1:");
         for (int promise = 1; promise <= PROMISES; promise++) {
             String end = promise < PROMISES ? "## Promise " + (promise + 1) + ":" : "## Not promised";
             sections[promise] = between(text, "## Promise " + promise + ":", end);
         }
-        for (int i = 0; i <= PROMISES; i++) {
+        for (int i = 0; i < sections.length; i++) {
             told.add(new TreeSet<>());
         }
     }
@@ -34,9 +36,10 @@ final class Document {
         return at < 0 || end < at ? "" : text.substring(at, end);
     }
 
-    /** What comes next tests this sentence of a promise (or of the terms). */
+    /** What comes next tests this sentence of a promise (or of the terms, or of what stands ahead of the face). */
     void says(int promise, String sentence) {
-        now = (promise == TERMS ? "terms" : "promise " + promise) + ", \"" + sentence + "\"";
+        String section = promise == TERMS ? "terms" : promise == HEAD ? "head" : "promise " + promise;
+        now = section + ", \"" + sentence + "\"";
         told.get(promise).add(sentence);
         Check.due(now + " stands in the document", true, () -> sections[promise].contains(sentence));
     }

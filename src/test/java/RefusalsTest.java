@@ -11,6 +11,7 @@ import java.util.function.Supplier;
 /**
  * Every refusal of the face: which exception it is, which one comes first where two would fit, that status counts just
  * that one, and that the tape, the columns, the rows, the results, cost and fault are behind it as they were ahead of it.
+ * A text with a fault is no refusal: it empties the tape and tells the fault's place, and all else is as it was.
  */
 public final class RefusalsTest {
     private static final String NSEE = "NoSuchElementException";
@@ -44,6 +45,9 @@ public final class RefusalsTest {
         basesSought();
         othersTold();
         allOfTheFace();
+        columnFaults();
+        questionFaults();
+        wordFaults();
         Check.end("RefusalsTest");
     }
 
@@ -100,8 +104,12 @@ public final class RefusalsTest {
 
     /** Everything that can be asked of an object's state, but for what its tape says. */
     private static String told(AlignedRuns x) {
+        return indexTold(x) + "\nfault " + x.fault() + " tape " + x.told(6);
+    }
+
+    private static String indexTold(AlignedRuns x) {
         StringBuilder told = new StringBuilder();
-        for (int what = 0; what <= 6; what++) {
+        for (int what = 0; what <= 5; what++) {
             told.append(x.told(what)).append(' ');
         }
         for (int c = 0; c < x.told(0); c++) {
@@ -117,8 +125,7 @@ public final class RefusalsTest {
                 told.append(x.word(r, k)).append(' ');
             }
         }
-        return told.append("\ncost ").append(x.cost(0)).append(' ').append(x.cost(1)).append(' ').append(x.cost(2))
-            .append("\nfault ").append(x.fault()).toString();
+        return told.append("\ncost ").append(x.cost(0)).append(' ').append(x.cost(1)).append(' ').append(x.cost(2)).toString();
     }
 
     private static void appendBitmaps(StringBuilder told, AlignedRuns x, int c) {
@@ -570,5 +577,60 @@ public final class RefusalsTest {
                 Check.due("refusals of " + method.getName(), named.toString(), tested.toString());
             }
         }
+    }
+
+    // Faults: what stays behind them, and what does not.
+
+    private interface Reading {
+        int answer(AlignedRuns x, int n);
+    }
+
+    private static void faulty(AlignedRuns x, byte[] bytes, int fault, int place, Reading reading) {
+        String what = call + " of " + Arrays.toString(bytes);
+        x.load(0, 0);
+        Check.put(x, bytes);
+        String before = indexTold(x);
+        String counts = x.status(0) + " " + x.status(1) + " " + x.status(2);
+        Check.due(what, fault - 10, () -> reading.answer(x, bytes.length));
+        Check.due("the place in " + what, place, x::fault);
+        Check.due("the tape behind " + what, 0, () -> x.told(6));
+        Check.due("all but the tape behind " + what, before, Check.answerOf(() -> indexTold(x)));
+        Check.due("no refusal in " + what, counts, Check.answerOf(() -> x.status(0) + " " + x.status(1) + " " + x.status(2)));
+    }
+
+    private static void columnFaults() {
+        call = "column";
+        Object[][] texts = {{"", 1, 0}, {"range 3x2 on 6", 1, 10}, {"range 3x2 of 6 6", 1, 15}, {"range 3x1 of 3", 2, 8},
+            {"equal 3x2 of 201", 2, 13}, {"equal 3x2x2x2x2 of 6", 3, 14}, {"equal 3x2 of 7", 4, 13}};
+        for (Object[] text : texts) {
+            AlignedRuns x = settled(Made.with("range 3x2 of 6", "equal 2 of 2"));
+            faulty(x, Check.bytesOf((String) text[0]), (int) text[1], (int) text[2], AlignedRuns::column);
+            Check.due("a column behind that", 2, () -> Made.column(x, "equal 2x2x2 of 8"));
+        }
+    }
+
+    private static void questionFaults() {
+        call = "ask";
+        Object[][] texts = {{"", 1, 0}, {"all", 1, 3}, {"or(le(0,3),eq(1,1)", 1, 18}, {"not(le(0,3)),", 1, 12}, {"le(2,0)", 2, 3},
+            {"or(le(0,3),le(0,1000))", 2, 16}, {"not(result(6))", 2, 11}, {"and(all(),all(),all(),all(),all())", 3, 27},
+            {"not(not(not(not(not(all())))))", 3, 23}};
+        for (Object[] text : texts) {
+            AlignedRuns x = some();
+            faulty(x, Check.bytesOf((String) text[0]), (int) text[1], (int) text[2], (y, n) -> y.ask(1, n));
+            Check.due("a question behind that", 35, () -> Made.ask(x, 1, "all()"));
+        }
+    }
+
+    private static void wordFaults() {
+        call = "load";
+        int[][] cases = {{2, 0, 0}, {2, 2, 5, 32767}, {3, 2, 32769, 49152}, {4, 2, 32769, 32770}, {5, 2, 32769, 49155}, {5, 6, 1, 2, 3, 4},
+            {6, 4, 1, 2, 64}, {6, 0, 49155}, {7, 4, 49153, 5}, {7, 0}};
+        for (int[] c : cases) {
+            AlignedRuns x = some();
+            byte[] bytes = Check.bytesOfWords(Arrays.copyOfRange(c, 2, c.length));
+            faulty(x, bytes, c[0], c[1], (y, n) -> y.load(1, n));
+            Check.due("words behind that", 36, () -> Made.load(x, 1, 49154, 63));
+        }
+        faulty(some(), new byte[] {0, 5, 1}, 1, 2, (y, n) -> y.load(1, n));
     }
 }

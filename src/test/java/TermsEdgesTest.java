@@ -18,6 +18,7 @@ public final class TermsEdgesTest {
 
     public static void main(String[] args) throws IOException {
         document = new Document();
+        callsAtMost();
         rowsAtMost();
         groupsOfFifteen();
         fills();
@@ -44,10 +45,13 @@ public final class TermsEdgesTest {
         columnFaultOfProduct();
         live();
         resultsAtFirst();
+        logicOfTwo();
         logicSteps();
         turnedSteps();
         opsAndReadings();
+        bitForEachRow();
         questionText();
+        questionForms();
         questionColumns();
         questionNumbers();
         questionResults();
@@ -72,6 +76,18 @@ public final class TermsEdgesTest {
     }
 
     // Rows, groups and words.
+
+    private static void callsAtMost() {
+        document.says(Document.HEAD, "An object is used for at most 512 calls after it has been made");
+        String text = "equal 200x200x200x200 of 200";
+        // Two calls of feed and one of column for each: twelve.
+        AlignedRuns x = Made.with(text, text, text, text);
+        for (int row = 0; row < 498; row++) {
+            x.add(row % 200, 199 - row % 200, row / 3, 199);
+        }
+        due("the 511th", 498, () -> x.add(199, 198, 197, 196));
+        due("the 512th", 166 + 1, () -> x.unlike(2, 6));
+    }
 
     private static void rowsAtMost() {
         says("ROWS are numbered from 0 on, 1,500 at most.");
@@ -120,6 +136,21 @@ public final class TermsEdgesTest {
         due("two of 1 behind it", 49154, () -> x.word(0, 1));
         due("one of 0 behind them", 32769, () -> x.word(0, 2));
         due("words", 3, () -> x.result(0, 1));
+    }
+
+    private static void bitForEachRow() {
+        says("A BITMAP has a bit for each ROW.");
+        AlignedRuns x = Made.with("equal 2 of 2");
+        for (int i = 0; i < 300; i++) {
+            x.add(i % 7 == 3 || i % 11 == 5 ? 1 : 0, 0, 0, 0);
+        }
+        Made.ask(x, 0, "eq(0,1)");
+        for (int i = 280; i < 300; i++) {
+            int row = i;
+            due("row " + row, row % 7 == 3 || row % 11 == 5, () -> x.has(0, row));
+        }
+        due("in it", 43 + 27 - 4, () -> x.index(0, 1, 1, 0));
+        due("not in it", 300 - 43 - 27 + 4, () -> x.index(0, 1, 0, 0));
     }
 
     private static void literals() {
@@ -543,6 +574,22 @@ public final class TermsEdgesTest {
         return words;
     }
 
+    private static void logicOfTwo() {
+        says("==== 2. LOGIC of two BITMAPS (AND, OR, XOR, LESS: in the first one, and not in the second one)");
+        AlignedRuns x = Made.rows(4);
+        Made.load(x, 0, 0b1100);
+        Made.load(x, 1, 0b1010);
+        int[] want = {0b1000, 0b1110, 0b0110, 0b0100};
+        String[] names = {"and", "or", "xor", "less"};
+        for (int kind = 0; kind < 4; kind++) {
+            int k = kind;
+            due("rows of " + names[k], Integer.bitCount(want[k]), () -> Made.ask(x, 2, names[k] + "(result(0),result(1))"));
+            due("the word of " + names[k], want[k], () -> x.word(2, 0));
+            due("how many by logic " + k, Integer.bitCount(want[k]), () -> x.logic(k, 0, 1, 3));
+            due("the word by logic " + k, want[k], () -> x.word(3, 0));
+        }
+    }
+
     private static void logicSteps() {
         says("STEPS: from GROUP 0 on, each takes one GROUP, if either stands at a LITERAL, else as many as both have left of their FILLS there.");
         int zero = 32768;
@@ -636,6 +683,32 @@ public final class TermsEdgesTest {
         due("the tape stays", 220, () -> x.told(6));
         due("just its first bytes are read", -9, () -> x.ask(0, 200));
         due("to their end", 200, x::fault);
+    }
+
+    private static void questionForms() {
+        says("likewise \"or\" (2 to 4 of Q each); \"xor\" \"(\" Q \",\" Q \")\", likewise \"less\"; \"not\" \"(\" Q \")\"; "
+            + "\"all\" \"(\" \")\", likewise \"none\"");
+        for (String name : new String[] {"and", "or", "xor", "less", "not"}) {
+            boolean many = name.equals("and") || name.equals("or");
+            int open = name.length() + 1;
+            misread(name + "()", 1, open);
+            misread(name + "(,all())", 1, open);
+            if (name.equals("not")) {
+                read(name + "(all())");
+                misread(name + "(all(),all())", 1, open + 5);
+                continue;
+            }
+            misread(name + "(all())", 1, open + 5);
+            read(name + "(all(),none())");
+            misread(name + "(all(),none(),)", 1, open + (many ? 13 : 12));
+            if (many) {
+                read(name + "(all(),none(),all())");
+                read(name + "(all(),none(),all(),none())");
+                misread(name + "(all(),none(),all(),none(),all())", 3, open + 25);
+            } else {
+                misread(name + "(all(),none(),all())", 1, open + 12);
+            }
+        }
     }
 
     private static void questionColumns() {
