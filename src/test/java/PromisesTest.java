@@ -857,18 +857,19 @@ public final class PromisesTest {
 
     private static void foretolds() {
         promise = 33;
-        AlignedRuns x = Made.small();
         String[] kinds = {"le", "lt", "ge", "gt", "eq", "ne"};
         for (int kind = 0; kind < 6; kind++) {
+            AlignedRuns y = Made.small();
             for (int n : new int[] {0, 9, 37, 90, 98, 99, 100, 999}) {
                 for (int what = 0; what < 3; what++) {
                     int k = kind;
                     int w = what;
-                    Made.ask(x, 0, kinds[k] + "(0," + n + ")");
-                    due("foretold " + kinds[k] + " " + n, x.cost(w), () -> x.foretold(k, 0, n, w));
+                    Made.ask(y, 0, kinds[k] + "(0," + n + ")");
+                    due("foretold " + kinds[k] + " " + n, y.cost(w), () -> y.foretold(k, 0, n, w));
                 }
             }
         }
+        AlignedRuns x = Made.small();
         due("eq 37 READINGS", 5, () -> x.foretold(4, 0, 37, 0));
         Made.ask(x, 0, "all(");
         due("behind a fault", 4, () -> x.foretold(4, 0, 37, 1));
