@@ -17,6 +17,7 @@ public final class AlignedRuns {
     private static final int MAX_CARD = 200;
     private static final int MAX_NUMBER = 999;
     private static final int MAX_BUDGET = 24;
+    private static final int NO_SCORE = 1000000;
     private static final int MAX_TEXT = 200;
     private static final int MAX_TAPE = 400;
     private static final int FED_BYTES = 20;
@@ -1318,8 +1319,7 @@ public final class AlignedRuns {
             } else if (call <= CALL_LESS) {
                 readJoined(call, open + 1);
             } else if (call == CALL_NOT) {
-                readCall(open + 1);
-                note(CALL_NOT, 0, 0);
+                readTurned(open + 1);
             } else {
                 note(call, 0, call == CALL_RESULT ? tape.readNumber(0, LAST_RESULT) : 0);
             }
@@ -1357,6 +1357,11 @@ public final class AlignedRuns {
             if (upToFour && tape.isSound() && tape.isNext(',')) {
                 tape.fail(3, tape.at);
             }
+        }
+
+        private void readTurned(int open) {
+            readCall(open);
+            note(CALL_NOT, 0, 0);
         }
 
         private void noteComparison(int call, int column, int n) {
@@ -1567,33 +1572,42 @@ public final class AlignedRuns {
         private void start(int forCard) {
             card = forCard;
             bestParts = 0;
-            bestScore = Integer.MAX_VALUE;
+            bestScore = NO_SCORE;
         }
 
         private void tryFewer(int part, int product, int bitmaps) {
-            if (part >= parts) {
-                compareBest(product, bitmaps);
-                return;
-            }
             int behind = parts - part - 1;
             for (int base = LEAST_CARD; base <= MAX_CARD && bitmaps + base - 1 + behind < bestScore; base++) {
                 tried[part] = base;
-                tryFewer(part + 1, product * base, bitmaps + base - 1);
+                goOnFewer(part + 1, product * base, bitmaps + base - 1);
+            }
+        }
+
+        private void goOnFewer(int part, int product, int bitmaps) {
+            if (part < parts) {
+                tryFewer(part, product, bitmaps);
+            } else {
+                compareBest(product, bitmaps);
             }
         }
 
         private void trySwifter(int part, int product, int bitmaps, int score) {
-            if (part >= parts) {
-                compareBest(product, score);
-                return;
-            }
             int behind = parts - part - 1;
-            for (int base = LEAST_CARD; bitmaps + base - 1 + behind <= budget; base++) {
+            int greatest = budget - bitmaps - behind + 1;
+            for (int base = LEAST_CARD; base <= greatest; base++) {
                 int more = score + readingsOf(part, product, base);
                 if (more < bestScore) {
                     tried[part] = base;
-                    trySwifter(part + 1, product * base, bitmaps + base - 1, more);
+                    goOnSwifter(part + 1, product * base, bitmaps + base - 1, more);
                 }
+            }
+        }
+
+        private void goOnSwifter(int part, int product, int bitmaps, int score) {
+            if (part < parts) {
+                trySwifter(part, product, bitmaps, score);
+            } else {
+                compareBest(product, score);
             }
         }
 

@@ -7,7 +7,9 @@ import java.nio.file.Files;
 import java.nio.file.Path;
 import java.util.Arrays;
 import java.util.List;
+import java.util.Map;
 import java.util.Set;
+import java.util.TreeMap;
 import java.util.TreeSet;
 import java.util.regex.Matcher;
 import java.util.regex.Pattern;
@@ -25,7 +27,9 @@ public final class LanguageTest {
         words(code);
         classes();
         methodLengths(code);
-        depths(code);
+        Map<String, Set<String>> calls = callsOfMethods(code);
+        depths(calls);
+        recursion(calls);
         Check.end("LanguageTest");
     }
 
@@ -85,7 +89,7 @@ public final class LanguageTest {
         while (library.find()) {
             String name = library.group(1) + "." + library.group(2);
             Check.due("library " + name, true, () -> List.of("Integer.bitCount", "Integer.numberOfTrailingZeros", "Integer.numberOfLeadingZeros",
-                "Integer.MAX_VALUE", "Math.max", "Math.min", "System.arraycopy").contains(name));
+                "Math.max", "Math.min", "System.arraycopy").contains(name));
         }
         Matcher thrown = Pattern.compile("throw ([^;]*);").matcher(code);
         while (thrown.find()) {
@@ -133,9 +137,9 @@ public final class LanguageTest {
         }
     }
 
-    /** Rule 11: calls that are no recursion go at most eight deep. Methods are told apart by their names. */
-    private static void depths(String code) {
-        java.util.Map<String, Set<String>> calls = new java.util.TreeMap<>();
+    /** Which methods each method names. Methods are told apart by their names alone. */
+    private static Map<String, Set<String>> callsOfMethods(String code) {
+        Map<String, Set<String>> calls = new TreeMap<>();
         Matcher head = Pattern.compile("(?m)^( +)[\\w\\[\\] ]*?(\\w+)\\([^;{]*\\)[\\w, ]*\\{$").matcher(code);
         while (head.find()) {
             if (head.group().strip().matches("(if|for|while|switch|else|\\}).*")) {
@@ -148,13 +152,25 @@ public final class LanguageTest {
                 called.add(call.group(1));
             }
         }
+        return calls;
+    }
+
+    /** Rule 11: calls that are no recursion go at most eight deep. */
+    private static void depths(Map<String, Set<String>> calls) {
         for (String name : calls.keySet()) {
             int depth = depthOf(name, calls, new TreeSet<>());
             Check.due(name + " goes deep: " + depth, true, () -> depth <= DEEPEST);
         }
     }
 
-    private static int depthOf(String name, java.util.Map<String, Set<String>> calls, Set<String> open) {
+    /** Rule 8: of the methods that call themselves outright, only static ones may; there are none such here. */
+    private static void recursion(Map<String, Set<String>> calls) {
+        for (String name : calls.keySet()) {
+            Check.due(name + " calls itself outright", false, () -> calls.get(name).contains(name));
+        }
+    }
+
+    private static int depthOf(String name, Map<String, Set<String>> calls, Set<String> open) {
         if (!calls.containsKey(name) || open.contains(name)) {
             return 0;
         }
